@@ -26,6 +26,7 @@ public final class PlayingTest {
         CHECK.equal("begin does not count the hand", game.begin(false), 2);
         CHECK.equal("begin: no blocks", game.lines(), 10);
         CHECK.equal("begin: phase", game.phase(), 0);
+        CHECK.equal("begin: player 0 gives, though 1 was on turn", game.onTurn(), 0);
         CHECK.equal("begin: hand", game.hand(), -1);
         CHECK.equal("begin: placed", game.placed(), 0);
         CHECK.equal("begin: square", game.pieceAt(7), -1);

@@ -196,7 +196,7 @@ public final class Quarterboard {
         if (!canLookAhead(placings)) {
             throw new IllegalStateException("the game is over, or too many squares are empty");
         }
-        return worthNow(placings);
+        return stage == TO_GIVE ? worthToGive(placings) : worthToPlace(held, placings);
     }
 
     public int best(int placings) throws IllegalArgumentException, IllegalStateException {
@@ -359,12 +359,8 @@ public final class Quarterboard {
         return stage != OVER;
     }
 
-    private int worthNow(int placings) {
-        return stage == TO_GIVE ? worthToGive(placings) : worthToPlace(held, placings);
-    }
-
     private int bestPiece(int placings) {
-        int goal = worthNow(placings);
+        int goal = worthToGive(placings);
         int piece = 0;
         while (piece < COUNT - 1
                 && (has(used, piece) || -worthToPlace(piece, placings) != goal)) {
@@ -374,7 +370,7 @@ public final class Quarterboard {
     }
 
     private int bestSquare(int placings) {
-        int goal = worthNow(placings);
+        int goal = worthToPlace(held, placings);
         int square = 0;
         while (square < COUNT - 1
                 && (has(filled, square) || worthAfterPlacing(square, placings) != goal)) {
