@@ -6,14 +6,44 @@ final class Check {
 
     private int right = 0;
     private int wrong = 0;
+    private int sentences = 0;
+    private int checksBefore = 0;
+    private String sentence = "";
+
+    /** Names the sentence of the document, to the letter, that the next checks would see broken. */
+    void sentence(String where, String words) {
+        endSentence();
+        sentences++;
+        sentence = where + ": " + words;
+        checksBefore = right + wrong;
+    }
+
+    /** A sentence without a check behind it is not tested. */
+    private void endSentence() {
+        if (!sentence.isEmpty() && right + wrong == checksBefore) {
+            wrong("no check");
+        }
+    }
+
+    private void wrong(String told) {
+        wrong++;
+        System.out.println(told + (sentence.isEmpty() ? "" : "  [" + sentence + "]"));
+    }
 
     void equal(String what, long got, long due) {
         if (got == due) {
             right++;
-            return;
+        } else {
+            wrong(what + " answered " + got + ", due is " + due);
         }
-        wrong++;
-        System.out.println(what + " answered " + got + ", due is " + due);
+    }
+
+    void equal(String what, String got, String due) {
+        if (got.equals(due)) {
+            right++;
+        } else {
+            wrong(what + " answered " + got + ", due is " + due);
+        }
     }
 
     void equal(String what, boolean got, boolean due) {
@@ -25,10 +55,9 @@ final class Check {
         Class<?> got = thrownBy(call);
         if (got == due) {
             right++;
-            return;
+        } else {
+            wrong(what + " threw " + got + ", due is " + due);
         }
-        wrong++;
-        System.out.println(what + " threw " + got + ", due is " + due);
     }
 
     void noPlace(String what, Call call) {
@@ -53,7 +82,9 @@ final class Check {
     }
 
     void end() {
-        System.out.println(right + " answers as due, " + wrong + " not");
+        endSentence();
+        System.out.println(right + " answers as due, " + wrong + " not"
+            + (sentences > 0 ? ", for " + sentences + " sentences" : ""));
         if (wrong != 0 || right == 0) {
             System.exit(1);
         }

@@ -19,7 +19,7 @@ public final class LinesTest {
             Quarterboard game = Games.game(true, square, square);
             for (int line = 0; line < 19; line++) {
                 int due = 0;
-                for (int other : PlayingTest.squaresOf(line)) {
+                for (int other : Games.squaresOf(line)) {
                     due += other == square ? 1 : 0;
                 }
                 CHECK.equal("square " + square + " on line " + line, game.onLine(line), due);

@@ -25,10 +25,17 @@ public final class ModelTest {
             : thrown == IllegalStateException.class ? 3 : 4;
     }
 
-    private static String run = "";
+    private static final int MOST_CALLS = 512;
 
+    private static String run = "";
+    private static int calls = 0;
+
+    /** One call of the object; what it answers after the last that the document allows is free. */
     private static void same(String call, Answer got, Answer due) {
-        CHECK.equal(run + call, answer(got), answer(due));
+        if (calls < MOST_CALLS) {
+            calls++;
+            CHECK.equal(run + call, answer(got), answer(due));
+        }
     }
 
     private static void sameState(Quarterboard game, SlowGame slow) {
@@ -38,14 +45,15 @@ public final class ModelTest {
         same("placed()", game::placed, slow::placed);
         same("winner()", game::winner, () -> slow.winner);
         same("lines()", game::lines, slow::lines);
-        for (int n = -1; n <= 19; n++) {
-            int number = n;
-            same("pieceAt(" + n + ")", () -> game.pieceAt(number), () -> slow.pieceAt(number));
-            same("onLine(" + n + ")", () -> game.onLine(number), () -> slow.onLine(number));
-            same("shared(" + n + ")", () -> game.shared(number), () -> slow.shared(number));
-            same("winning(" + n + ")", () -> game.winning(number), () -> slow.winning(number));
-        }
         same("safe()", game::safe, slow::safe);
+    }
+
+    private static void sameAt(Quarterboard game, SlowGame slow, int number) {
+        String at = "(" + number + ")";
+        same("pieceAt" + at, () -> game.pieceAt(number), () -> slow.pieceAt(number));
+        same("onLine" + at, () -> game.onLine(number), () -> slow.onLine(number));
+        same("shared" + at, () -> game.shared(number), () -> slow.shared(number));
+        same("winning" + at, () -> game.winning(number), () -> slow.winning(number));
     }
 
     private static void sameOutlook(Quarterboard game, SlowGame slow, int most) {
@@ -94,11 +102,19 @@ public final class ModelTest {
         Quarterboard game = new Quarterboard();
         SlowGame slow = new SlowGame();
         int most = seed % 4 == 0 ? 4 : 3;
-        for (int call = 0; call < 90; call++) {
-            run = "seed " + seed + ", step " + call + ": ";
+        calls = 0;
+        while (calls < MOST_CALLS) {
+            run = "seed " + seed + ", call " + calls + ": ";
             step(game, slow, random);
             sameState(game, slow);
-            if (slow.placed() >= 8 || random.nextInt(4) == 0) {
+            if (random.nextInt(8) == 0) {
+                for (int number = -1; number <= 19; number++) {
+                    sameAt(game, slow, number);
+                }
+            } else {
+                sameAt(game, slow, random.nextInt(21) - 1);
+            }
+            if (random.nextInt(slow.placed() >= 6 ? 2 : 6) == 0) {
                 sameOutlook(game, slow, most);
             }
             if (random.nextInt(6) == 0) {
@@ -127,6 +143,7 @@ public final class ModelTest {
         Quarterboard game = new Quarterboard();
         SlowGame slow = new SlowGame();
         run = "likeness " + seed + ": ";
+        calls = 0;
         for (int i = 0; i < count && slow.phase == 0; i++) {
             both(game, slow, pieces[i], squares[i]);
         }
@@ -173,7 +190,7 @@ public final class ModelTest {
     }
 
     public static void main(String[] args) {
-        for (int seed = 1; seed <= 160; seed++) {
+        for (int seed = 1; seed <= 600; seed++) {
             runOf(seed);
         }
         for (int seed = 1; seed <= 1500; seed++) {

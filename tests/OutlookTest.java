@@ -140,20 +140,16 @@ public final class OutlookTest {
         for (int seed = 1; seed <= 400; seed++) {
             java.util.Random random = new java.util.Random(seed);
             Quarterboard game = Games.game(seed % 2 == 0);
-            while (game.phase() != 2) {
-                int number = random.nextInt(16);
-                if (game.phase() == 0) {
-                    if (game.safe() == 0 || (game.safe() >> number & 1) != 0) {
-                        Check.thrownBy(() -> game.give(number));
-                    }
-                } else if (game.winning(game.hand()) != 0) {
-                    break;
-                } else {
-                    Check.thrownBy(() -> game.place(number));
-                }
-                if (game.placed() >= 10 && game.phase() != 2) {
-                    count(game, seen);
-                }
+            int empty = 0xFFFF;
+            int pieces = game.safe();
+            while (pieces != 0) {
+                game.give(oneOf(pieces, random));
+                count(game, seen);
+                int square = oneOf(empty, random);
+                game.place(square);
+                empty &= ~(1 << square);
+                pieces = empty == 0 ? 0 : game.safe();
+                count(game, seen);
             }
         }
         for (int placings = 2; placings <= 4; placings++) {
@@ -161,8 +157,19 @@ public final class OutlookTest {
         }
     }
 
+    private static int oneOf(int set, java.util.Random random) {
+        int number = random.nextInt(16);
+        while ((set >> number & 1) == 0) {
+            number = (number + 1) % 16;
+        }
+        return number;
+    }
+
     /** Counts the wins that are seen only when one looks so far ahead. */
     private static void count(Quarterboard game, int[] seen) {
+        if (game.placed() < 10 || game.phase() == 2) {
+            return;
+        }
         for (int placings = 2; placings <= 4; placings++) {
             int now = game.worth(placings);
             int before = game.worth(placings - 1);

@@ -118,7 +118,7 @@ public final class PlayingTest {
     /** Four pieces with a 1 for mark 2 and no other digit in common, on each line alone. */
     private static void winOnLine(int line) {
         int[] pieces = {4, 5, 6, 12};
-        int[] squares = squaresOf(line);
+        int[] squares = Games.squaresOf(line);
         Quarterboard game = Games.game(true);
         for (int i = 0; i < 4; i++) {
             game.give(pieces[i]);
@@ -140,18 +140,6 @@ public final class PlayingTest {
             CHECK.equal("mixed line " + line, nothing.place(squares[i]), 0);
         }
         CHECK.equal("mixed line " + line + ": goes on", nothing.phase(), 0);
-    }
-
-    static int[] squaresOf(int line) {
-        int[][] squares = {
-            {0, 1, 2, 3}, {4, 5, 6, 7}, {8, 9, 10, 11}, {12, 13, 14, 15},
-            {0, 4, 8, 12}, {1, 5, 9, 13}, {2, 6, 10, 14}, {3, 7, 11, 15},
-            {0, 5, 10, 15}, {3, 6, 9, 12},
-            {0, 1, 4, 5}, {1, 2, 5, 6}, {2, 3, 6, 7},
-            {4, 5, 8, 9}, {5, 6, 9, 10}, {6, 7, 10, 11},
-            {8, 9, 12, 13}, {9, 10, 13, 14}, {10, 11, 14, 15}
-        };
-        return squares[line];
     }
 
     private static void promise5Phase() {
@@ -242,33 +230,10 @@ public final class PlayingTest {
         CHECK.equal("no winner before the last piece", drawn.winner(), -1);
         Games.play(drawn, 7, 15);
         CHECK.equal("nobody has won", drawn.winner(), 2);
-        lastPieceWins();
-    }
-
-    /** The sixteenth piece wins the last row: the digits 1 for mark 0. */
-    private static void lastPieceWins() {
-        for (int seed = 1; seed < 100_000; seed++) {
-            java.util.Random random = new java.util.Random(seed);
-            Quarterboard game = new Quarterboard();
-            while (game.phase() == 0) {
-                int piece = random.nextInt(16);
-                if (Check.thrownBy(() -> game.give(piece)) != null) {
-                    continue;
-                }
-                int square = game.placed();
-                if (square < 15 && (game.winning(piece) >> square & 1) != 0) {
-                    break;
-                }
-                int won = game.place(square);
-                if (square == 15 && won > 0) {
-                    CHECK.equal("won on a full board: placed", game.placed(), 16);
-                    CHECK.equal("won on a full board: phase", game.phase(), 2);
-                    CHECK.equal("won on a full board: winner", game.winner(), 0);
-                    return;
-                }
-            }
-        }
-        CHECK.equal("a win on the last square is found", false, true);
+        Quarterboard full = Games.game(true, Games.FULL_WON);
+        CHECK.equal("won on a full board: placed", full.placed(), 16);
+        CHECK.equal("won on a full board: phase", full.phase(), 2);
+        CHECK.equal("won on a full board: winner", full.winner(), 0);
     }
 
     public static void main(String[] args) {
