@@ -25,7 +25,8 @@ public final class LinesEdgesTest {
             Quarterboard game = Games.game(blocks == 1);
             for (int n = -1; n <= 19; n++) {
                 int line = n;
-                Class<?> due = n < 0 || n >= game.lines() ? IndexOutOfBoundsException.class : null;
+                Class<?> due = n < 0 || n > (blocks == 1 ? 18 : 9)
+                    ? IndexOutOfBoundsException.class : null;
                 CHECK.fails("onLine(" + n + ")", due, () -> game.onLine(line));
             }
         }
@@ -34,7 +35,8 @@ public final class LinesEdgesTest {
             Quarterboard game = Games.game(blocks == 1);
             for (int n = -1; n <= 19; n++) {
                 int line = n;
-                Class<?> due = n < 0 || n >= game.lines() ? IndexOutOfBoundsException.class : null;
+                Class<?> due = n < 0 || n > (blocks == 1 ? 18 : 9)
+                    ? IndexOutOfBoundsException.class : null;
                 CHECK.fails("shared(" + n + ")", due, () -> game.shared(line));
             }
         }

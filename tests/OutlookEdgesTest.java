@@ -372,6 +372,40 @@ public final class OutlookEdgesTest {
             0, 4, 0, 4, 0, 8, 1, 8);
     }
 
+    private static void onlyTheFirstOrTheLast() {
+        CHECK.sentence("Promise 17", "Returns the lowest number of a piece or square after which the"
+            + " worth for the player on turn, looked at within the same placings, is the worth of the"
+            + " position.");
+        // Only the piece 0, then only the piece 15: the only one that does not lose.
+        row(true, new int[] {10, 3, 2, 11, 13, 2, 14, 10, 9, 5, 8, 12, 15, 9, 4, 0}, 0, 0, 0, 0, 0, 0);
+        row(true, new int[] {8, 7, 14, 0, 9, 5, 0, 2, 13, 8, 11, 3, 5, 6, 3, 12, 6, 4, 10, 9},
+            0, 2, 0, 2, 0, 15, 0, 15);
+        // The only one that wins with the second placing.
+        row(true, new int[] {1, 5, 6, 6, 10, 8, 9, 3, 13, 4, 7, 7, 15, 1, 8, 13, 14, 11},
+            0, 0, 1, 0, 1, 0);
+        row(true, new int[] {12, 12, 1, 7, 13, 9, 9, 0, 3, 5, 14, 11, 5, 2, 6, 15, 2, 4},
+            0, 15, 1, 15, 1, 15);
+        // The only one that wins with the fourth.
+        row(false, new int[] {13, 11, 12, 13, 8, 12, 9, 8, 6, 9, 2, 5, 11, 14, 3, 7, 7, 2, 5, 1},
+            0, 0, 0, 0, 0, 0, 1, 0);
+        row(false, new int[] {7, 3, 3, 6, 1, 15, 5, 7, 8, 9, 10, 11, 6, 5, 14, 12, 13, 0, 12, 14, 11, 13},
+            0, 9, 0, 9, 0, 9, 1, 15);
+        // Only the square 0, then only the square 15: the only one that does not lose.
+        row(false, new int[] {8, 5, 3, 12, 12, 2, 14, 6, 5, 7, 6, 8, 2, 4, 13, 1, 9}, 0, 0, 0, 0, 0, 0);
+        row(true, new int[] {12, 12, 6, 7, 9, 0, 15, 4, 2, 3, 5, 13, 7, 8, 0, 11, 11},
+            0, 1, 0, 15, 0, 15);
+        row(true, new int[] {12, 12, 14, 1, 15, 14, 8, 5, 5, 2, 3, 15, 13, 6, 2, 3, 0, 10, 6, 9, 7},
+            0, 0, 0, 0, 0, 0, 0, 0);
+        row(true, new int[] {5, 3, 6, 1, 12, 2, 2, 14, 10, 11, 11, 6, 1, 4, 9, 0, 8, 9, 15, 10, 0, 7, 4},
+            0, 5, 0, 15, 0, 15, 0, 15);
+        // The only one that wins with the third.
+        row(false, new int[] {8, 5, 9, 2, 15, 3, 2, 14, 13, 11, 6, 9, 0, 10, 14, 1, 5}, 0, 0, 0, 0, 1, 0);
+        row(true, new int[] {10, 14, 14, 9, 3, 5, 4, 4, 2, 12, 7, 13, 9, 7, 8, 6, 1}, 0, 0, 0, 0, 1, 0);
+        row(true, new int[] {8, 1, 4, 14, 14, 11, 10, 4, 5, 12, 9, 3, 1, 8, 13, 7, 0}, 0, 0, 0, 0, 1, 15);
+        row(false, new int[] {2, 11, 9, 13, 11, 5, 1, 0, 4, 1, 10, 3, 8, 8, 15, 9, 6, 12, 5, 4, 12, 10, 0},
+            0, 2, 0, 2, 1, 15, 1, 15);
+    }
+
     /** Follows each piece or square, in many games, and asks what the position is worth then. */
     private static void theWorthIsReached() {
         CHECK.sentence("Promise 17", "Returns a piece, to be given, or a square, to be placed on, with"
@@ -459,6 +493,7 @@ public final class OutlookEdgesTest {
         worthIsNotNow();
         bestIsNotNow();
         lowestThatReachesTheWorth();
+        onlyTheFirstOrTheLast();
         theWorthIsReached();
         CHECK.end();
     }
